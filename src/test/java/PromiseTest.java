@@ -296,6 +296,10 @@ public final class PromiseTest {
     due("7 and 63 by 5", x.needs(0, 3), 19);
     due("another hour", x.needs(0, 4), 7);
     due("last hour", x.needs(0, 47), 7);
+    x.wind(0, 5);
+    x.wind(47, 5);
+    due("first hour with wind", x.needs(0, 0), 14);
+    due("last hour with wind", x.needs(0, 47), 14);
     due("ship 1", x.needs(1, 3), BAD);
     due("ship -1", x.needs(-1, 3), BAD);
     due("hour -1", x.needs(0, -1), BAD);
@@ -418,6 +422,30 @@ public final class PromiseTest {
     shipAtHome(x, 1, 0, 3);
     x.rule(0, 1);
     due("longer than the crew", x.may(3, 20, 1), 7);
+    crewAtTheEnds();
+  }
+
+  /** A crew of 2 that rests 2: windows of 4 hours at the first and the last hour. */
+  private static void crewAtTheEnds() {
+    HarbourTugs x = new HarbourTugs();
+    x.tug(0, 60, 1, 48, 48, 2, 0);
+    shipAtHome(x, 1, 0, 2);
+    shipAtHome(x, 1, 0, 1);
+    x.lay(0, 0, 1);
+    due("hours 0, 1, 3", x.may(1, 3, 1), 7);
+    due("hours 0, 1, 4: 1 to 4 has two", x.may(1, 4, 1), 0);
+    x.off(0);
+    x.lay(0, 46, 1);
+    due("hours 44, 46, 47", x.may(1, 44, 1), 7);
+    due("hours 43, 46, 47", x.may(1, 43, 1), 0);
+    x.rule(0, 3);
+    due("a rest of 3: 43 to 47", x.may(1, 43, 1), 7);
+    x.rule(0, 0);
+    x.off(0);
+    x.tug(0, 60, 1, 1, 1, 12, 0);
+    due("fuel for one of hours 0, 1", x.may(0, 0, 2), 6);
+    due("fuel for one of hours 46, 47", x.may(0, 46, 2), 6);
+    due("fuel that comes to 0", x.may(1, 0, 2), 0);
   }
 
   private static void mayBrokenAndBasins() {
@@ -439,6 +467,13 @@ public final class PromiseTest {
     due("TO is in the other's basin", x.may(1, 5, 2), 9);
     x.berth(3, 1, 1);
     due("no basin in common", x.may(1, 5, 2), 0);
+    x.ship(1, 0, 0, 2, 1, 1, 0);
+    due("broken behind the last hour", x.breaks(1, 12), 0);
+    due("best ends ahead of the break", x.best(1, 0), 2);
+    x.berth(2, 1, 0);
+    x.lay(1, 10, 2);
+    due("two are laid: in the first", x.may(2, 6, 2), 9);
+    due("two are laid: in the second", x.may(2, 11, 1), 9);
   }
 
   private static void mayFire() {
@@ -570,6 +605,17 @@ public final class PromiseTest {
     due("ship 1", x.best(1, 0), BAD);
     due("ship -1", x.best(-1, 0), BAD);
     due("nothing is laid by it", x.count(2), 0);
+    x.wind(13, 9);
+    due("wind behind its hours", x.best(0, 1), 4);
+    x.wind(12, 1);
+    due("12 of 12 is enough", x.best(0, 1), 4);
+    x.wind(12, 0);
+    x.breaks(2, 12);
+    due("broken in its last hour", x.best(0, 1), 16);
+    x.mend(2);
+    x.breaks(2, 13);
+    due("broken behind it", x.best(0, 1), 4);
+    x.mend(2);
     x.lay(0, 11, 4);
     due("laid", x.best(0, 0), NO);
     due("BAD goes before NO", x.best(0, 2), BAD);
@@ -1133,6 +1179,25 @@ public final class PromiseTest {
   }
 
   private static void backTwice() {
+    HarbourTugs y = withTwo();
+    shipAtHome(y, 10, 0, 1);
+    shipAtHome(y, 10, 0, 1);
+    y.lay(0, 3, 1);
+    y.lay(1, 8, 2);
+    y.storm(3, 3);
+    y.breaks(1, 8);
+    y.keep();
+    y.mend(1);
+    y.lay(0, 9, 2);
+    y.lay(1, 11, 1);
+    y.storm(11, 11);
+    y.breaks(1, 0);
+    y.back();
+    due("broken as kept", y.about(1, 6), 8);
+    due("laid ever", y.count(4), 2);
+    due("taken off", y.count(5), 2);
+    due("lost by breaking", y.count(6), 1);
+    due("lost by storm", y.count(7), 1);
     HarbourTugs x = withTug();
     x.keep();
     x.wind(0, 3);
