@@ -381,11 +381,11 @@ public final class HarbourTugs {
   }
 
   private boolean isTug(int tug) {
-    return within(tug, 0, now.tugCount - 1);
+    return within(tug, 0, MOST_TUGS - 1) && tug < now.tugCount;
   }
 
   private boolean isShip(int ship) {
-    return within(ship, 0, now.shipCount - 1);
+    return within(ship, 0, MOST_SHIPS - 1) && ship < now.shipCount;
   }
 
   private boolean isSet(int set) {
