@@ -1004,6 +1004,7 @@ public final class EdgeTest {
     part = "17 order";
     orderOfNumbers();
     orderOfEquals();
+    orderOfSome();
     part = "18 layOrder";
     planInPlaceOfAll();
     planAroundTroubles();
@@ -1059,6 +1060,22 @@ public final class EdgeTest {
       due("all alike", y.order(4, i), i);
       due("none has a job", z.order(4, i), i);
     }
+  }
+
+  /** A ship that is not of them would bring the tug, which is far away, to the first at once. */
+  private static void orderOfSome() {
+    HarbourTugs x = new HarbourTugs();
+    x.tug(0, 60, 1, 48, 48, 12, 5);
+    x.ship(10, 0, 0, 1, 1, 0, 0);
+    x.ship(10, 9, 0, 1, 1, 0, 0);
+    x.ship(10, 0, 0, 1, 1, 5, 0);
+    due("5 hours of way, one without a job", x.order(2, -1), 65);
+    due("the first", x.order(2, 0), 0);
+    due("the other", x.order(2, 1), 1);
+    due("brought there by ship 2", x.order(3, -1), 61);
+    due("the one without a job is lowest", x.order(3, 0), 1);
+    due("then ship 2", x.order(3, 1), 2);
+    due("then the first", x.order(3, 2), 0);
   }
 
   private static void planInPlaceOfAll() {
@@ -1117,6 +1134,9 @@ public final class EdgeTest {
     mendedByWaited();
     mendedByBits();
     mendedOfSome();
+    mendedButNotOthers();
+    mendedBesideOneWithout();
+    mendedBehindAnother();
   }
 
   /** All have a job: none is taken off, however long it waits. */
@@ -1206,6 +1226,56 @@ public final class EdgeTest {
     due("laid", x.layMended(3), 3);
     due("ship 3 stays", x.job(3, 0), 0);
     due("four jobs", x.count(2), 4);
+  }
+
+  /** Ship 2, which is not of them, has the one hour that ship 1 could have. */
+  private static void mendedButNotOthers() {
+    HarbourTugs x = withTugs(1);
+    x.tide(2, 9);
+    x.ship(10, 0, 0, 1, 1, 0, 0);
+    x.ship(10, 9, 0, 1, 1, 0, 0);
+    x.ship(10, 0, 0, 1, 1, 0, 0);
+    x.storm(5, 47);
+    x.lay(2, 2, 1);
+    due("of two: one", x.mended(2, 0), 1);
+    due("none off", x.mended(2, 3), 0);
+    due("0 and 60", x.mended(2, 2), 60);
+    due("of three: all", x.mended(3, 0), 3);
+    due("ship 2 off", x.mended(3, 3), 4);
+    due("laid", x.layMended(2), 1);
+    due("ship 2 stays", x.job(2, 0), 2);
+  }
+
+  /** Ship 0 can't have a job; ship 1 has the one hour that ship 2 could have. */
+  private static void mendedBesideOneWithout() {
+    HarbourTugs x = withTugs(1);
+    x.tide(2, 8);
+    x.ship(10, 9, 0, 1, 1, 0, 0);
+    x.ship(10, 0, 0, 1, 1, 0, 0);
+    x.ship(10, 8, 0, 1, 1, 0, 0);
+    x.storm(5, 47);
+    x.lay(1, 2, 1);
+    due("two", x.mended(3, 0), 2);
+    due("ship 1 off", x.mended(3, 3), 2);
+    due("60, 0 and 2", x.mended(3, 2), 62);
+  }
+
+  /** What an earlier question was answered is forgotten. */
+  private static void mendedBehindAnother() {
+    HarbourTugs x = withTwoInTheWay(3, 1, 1);
+    due("one off", x.mended(3, 1), 1);
+    x.storm(0, 47);
+    due("none", x.mended(3, 0), 0);
+    due("none off", x.mended(3, 3), 0);
+    due("all wait", x.mended(3, 2), 5 * 60);
+    due("an order, too", x.order(3, -1), 5 * 60);
+    x.calm();
+    due("in fair weather: 0 at 0, 1 at 1", x.order(2, -1) + x.order(2, 0), 1);
+    HarbourTugs y = withTugs(1);
+    shipAtHome(y, 0, 1);
+    due("no waiting", y.mended(1, 2), 0);
+    y.storm(0, 47);
+    due("no job, 60 hours", y.mended(1, 2), 60);
   }
 
   // ---- what breaks
